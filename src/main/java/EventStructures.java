@@ -1129,36 +1129,28 @@ public final class EventStructures {
 
         /**
          * Looks for words shorter than those found so far that go on from the lists at hand on one side only. The
-         * words come in lexicographic order, so the first one of a length stays. Answers whether it looked at all
-         * that goes on from here and both sides agreed.
+         * words come in lexicographic order, so the first one of a length stays, and lists that were met before
+         * can be left out: they were met behind an earlier word of the same length.
          */
-        private static boolean seekDifference(Words words, int depth) {
-            if (depth >= MOST_EVENTS) {
-                return true;
-            }
-            if (depth + 1 >= words.shortest) {
-                return false;
+        private static void seekDifference(Words words, int depth) {
+            if (depth >= MOST_EVENTS || depth + 1 >= words.shortest) {
+                return;
             }
             int slot = words.findSlot(depth);
             if (words.isKept(slot, depth)) {
-                return true;
+                return;
             }
-            boolean agree = true;
+            words.keep(slot, depth, 0);
             for (int label = 0; label < LABELS && depth + 1 < words.shortest; label++) {
                 boolean onFirst = words.advance(0, depth, label);
                 boolean onSecond = words.advance(1, depth, label);
                 words.word[depth] = label;
                 if (onFirst != onSecond) {
                     words.keepDifference(depth + 1);
-                    agree = false;
-                } else if (onFirst && !seekDifference(words, depth + 1)) {
-                    agree = false;
+                } else if (onFirst) {
+                    seekDifference(words, depth + 1);
                 }
             }
-            if (agree) {
-                words.keep(slot, depth, 1);
-            }
-            return agree;
         }
 
         private void keepDifference(int length) {
@@ -1397,6 +1389,8 @@ public final class EventStructures {
      * range of the latest one ends with the last event.
      */
     private static final class Language {
+        private static final int LOOSEST = 1;
+
         final Structure built = new Structure();
         private final int[] text = new int[LONGEST_TEXT];
         private int length = 0;
@@ -1422,7 +1416,7 @@ public final class EventStructures {
 
         /** How tightly an operator binds, 0 for all other characters. */
         private static int rank(int character) {
-            return character == '+' ? 1 : character == '|' ? 2 : character == ';' ? 3 : 0;
+            return character == '+' ? LOOSEST : character == '|' ? 2 : character == ';' ? 3 : 0;
         }
 
         private static boolean isAtom(int character) {
@@ -1456,69 +1450,62 @@ public final class EventStructures {
             operands = 0;
             waitingCount = 0;
             for (int i = 0; i < length; i++) {
-                if (!take(text[i])) {
+                int c = text[i];
+                int rank = c == ')' ? LOOSEST : rank(c);
+                if (rank > 0 && !applyWaiting(rank)) {
                     return false;
                 }
+                if (c == ')') {
+                    dropParenthesis();
+                } else if (isAtom(c)) {
+                    openOperand();
+                    if (c != '0' && built.add(c - 'a', 1) < 0) {
+                        return false;
+                    }
+                } else {
+                    keepWaiting(c);
+                }
             }
-            return applyWaiting(1);
+            return applyWaiting(LOOSEST);
         }
 
-        private boolean take(int c) {
-            if (c == '(') {
-                await(c);
-                return true;
+        private void dropParenthesis() {
+            if (waitingCount > 0) {
+                waitingCount--;
             }
-            if (c == ')') {
-                boolean fits = applyWaiting(1);
-                waitingCount = Math.max(0, waitingCount - 1);
-                return fits;
-            }
-            if (rank(c) > 0) {
-                boolean fits = applyWaiting(rank(c));
-                await(c);
-                return fits;
-            }
-            return takeAtom(c);
         }
 
-        private void await(int c) {
+        private void keepWaiting(int c) {
             if (waitingCount < LONGEST_TEXT) {
                 waiting[waitingCount] = c;
                 waitingCount++;
             }
         }
 
-        private boolean takeAtom(int c) {
+        private void openOperand() {
             if (operands < LONGEST_TEXT) {
                 starts[operands] = built.count;
                 operands++;
             }
-            return c == '0' || built.add(c - 'a', 1) >= 0;
         }
 
-        /** Applies the operators that wait, back to a parenthesis or to one that binds less tightly. */
+        /**
+         * Applies the operators that wait, back to a parenthesis or to one that binds less tightly. Each makes one
+         * operand of the latest two.
+         */
         private boolean applyWaiting(int rank) {
-            while (waitingCount > 0 && rank(waiting[waitingCount - 1]) >= rank) {
+            while (waitingCount > 0 && operands > 1 && rank(waiting[waitingCount - 1]) >= rank) {
                 waitingCount--;
-                if (!apply(waiting[waitingCount])) {
+                operands--;
+                int left = starts[operands - 1];
+                int right = starts[operands];
+                if (waiting[waitingCount] == '+') {
+                    exclude(left, right);
+                } else if (waiting[waitingCount] == ';' && !continueWithCopies(left, right)) {
                     return false;
                 }
             }
             return true;
-        }
-
-        /** Makes one operand of the latest two. */
-        private boolean apply(int operator) {
-            if (operands < 2) {
-                return false;
-            }
-            operands--;
-            int left = starts[operands - 1];
-            int right = starts[operands];
-            if (operator == '+') {
-                exclude(left, right);
-            }
-            return operator != ';' || continueWithCopies(left, right);
         }
 
         private void exclude(int left, int right) {

@@ -170,6 +170,11 @@ public final class PromiseTest {
         due("3: conflict of first and last", x.areInConflict(0, 0, 3), 1);
         due("3: no other conflict", x.areInConflict(0, 0, 2), 0);
         due("3: no event 4", x.label(0, 4), NO_SUCH_ELEMENT);
+        due("3: nothing comes to be its own cause", x.history(0, 1), 2);
+        due("3: nothing comes to be in conflict with itself", x.areInConflict(0, 2, 2), 0);
+        due("3: no cause moves down", x.history(0, 2), 4);
+        due("3: the cause of the last", x.history(0, 3), 12);
+        due("3: configurations", x.configurationCount(0), 7);
         due("3: occur", x.occur(0, 0), 1);
         due("3: failing keeps current", x.removeEvent(0, 4), NO_SUCH_ELEMENT);
         due("3: current kept", x.current(0), 1);
@@ -191,6 +196,29 @@ public final class PromiseTest {
         due("3: durations stay", x.totalTime(1, 127), 21);
         due("3: remove", x.removeEvent(1, 0), 6);
         due("3: durations move", x.totalTime(1, 1), 1);
+    }
+
+    /** Each event is removed once, from events with all cause pairs along the numbers, or all conflict pairs. */
+    private static void removeEach() {
+        for (int removed = 0; removed < 5; removed++) {
+            EventStructures x = withEvents(0, 0, 1, 2, 3, 4);
+            EventStructures y = withEvents(1, 0, 1, 2, 3, 4);
+            for (int e = 0; e < 5; e++) {
+                for (int f = 0; f < e; f++) {
+                    x.addCause(0, f, e);
+                    y.addConflict(1, f, e);
+                }
+            }
+            due("3: of a chain", x.removeEvent(0, removed), 4);
+            due("3: of a choice", y.removeEvent(1, removed), 4);
+            for (int e = 0; e < 4; e++) {
+                due("3: chain", x.history(0, e), (2 << e) - 1);
+                due("3: label", x.label(0, e), e < removed ? e : e + 1);
+                for (int f = 0; f < 4; f++) {
+                    due("3: choice", y.areInConflict(1, e, f), e == f ? 0 : 1);
+                }
+            }
+        }
     }
 
     private static void promise4AddCause() {
@@ -540,6 +568,7 @@ public final class PromiseTest {
         due("21: size goes before number", x.largestStep(1, 0), 3);
         due("21: at a configuration", x.largestStep(0, 8), 21);
         due("21: maximal", x.largestStep(0, 27), 0);
+        due("21: the lowest event alone", x.largestStep(0, 26), 1);
         for (int set : new int[] {6, 16, 32, -1, LOWEST, HIGHEST}) {
             due("21: not possible", x.largestStep(0, set), NOT_POSSIBLE);
         }
@@ -616,6 +645,11 @@ public final class PromiseTest {
             x.addCause(1, e - 1, e);
         }
         due("24: eight in a chain", x.shortestTime(1, 255), OVERFLOW);
+        x.clear(1);
+        x.addEvent(1, 0, 3);
+        x.addEvent(1, 0, 4);
+        x.addCause(1, 1, 0);
+        due("24: nothing left of earlier events", x.shortestTime(1, 3), 7);
     }
 
     private static void promise25TotalTime() {
@@ -1149,6 +1183,11 @@ public final class PromiseTest {
         due("42: each pair of a choice", x.addConflict(0, 3, 0), 0);
         due("42: no pair", x.addConflict(0, 1, 2), 1);
         due("42: choice of three", parse(x, 0, "a+b+c"), 3);
+        for (int e = 0; e < 3; e++) {
+            for (int f = 0; f < 3; f++) {
+                due("42: each two are in conflict", x.areInConflict(0, e, f), e == f ? 0 : 1);
+            }
+        }
         due("42: each two are a pair", x.addConflict(0, 0, 2), 0);
         due("42: each two are a pair", x.addConflict(0, 1, 2), 0);
         due("42: parentheses", parse(x, 0, "(a+b)|c"), 3);
@@ -1252,6 +1291,9 @@ public final class PromiseTest {
         x.save();
         x.clearNet();
         x.addPlace(false);
+        x.addPlace(true);
+        x.addTransition(3, 3, 5);
+        x.addTransition(2, 1, 5);
         x.clear(1);
         x.copy(1, 0);
         x.append('a');
@@ -1267,7 +1309,10 @@ public final class PromiseTest {
             due("44: net", x.unfold(1), 1);
             due("44: transition", x.label(1, 0), 4);
             due("44: conditions", x.conditionCount(), 2);
+            due("44: no other transition", x.addTransition(1, 2, 0), 1);
             due("44: places", x.clearNet(), 2);
+            x.addPlace(true);
+            x.addTransition(1, 0, 3);
             x.removeEvent(0, 0);
         }
         due("44: the text stays", x.append('b'), 2);
@@ -1279,6 +1324,7 @@ public final class PromiseTest {
         promise1NewObject();
         promise2AddEvent();
         promise3RemoveEvent();
+        removeEach();
         promise4AddCause();
         promise5AddConflict();
         promise6SetLabel();

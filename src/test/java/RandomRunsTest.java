@@ -72,7 +72,7 @@ public final class RandomRunsTest {
     }
 
     private boolean fewStates() {
-        return model.configurationCount(0) + model.configurationCount(1) <= 50;
+        return model.configurationCount(0) + model.configurationCount(1) <= 60;
     }
 
     private void due(int call, String name, int got, int want) {
@@ -180,6 +180,9 @@ public final class RandomRunsTest {
         if (method > 26 || !fewStates()) {
             return;
         }
+        if (draw(2) == 0) {
+            makeAlike(call);
+        }
         if (method == 23) {
             due(call, "areBisimilar", x.areBisimilar(kind), model.areBisimilar(kind));
             due(call, "separationRound", x.separationRound(kind), model.separationRound(kind));
@@ -191,6 +194,22 @@ public final class RandomRunsTest {
         } else {
             int s = structure();
             due(call, "wordCount", x.wordCount(s), model.wordCount(s));
+        }
+    }
+
+    /** Makes the second structure a copy of the first one with a small difference, or with none. */
+    private void makeAlike(int call) {
+        due(call, "copy", x.copy(0, 1), model.copy(0, 1));
+        int e = event(1);
+        int f = event(1);
+        switch (draw(4)) {
+            case 0 -> due(call, "addCause", x.addCause(1, e, f), model.addCause(1, e, f));
+            case 1 -> due(call, "addConflict", x.addConflict(1, e, f), model.addConflict(1, e, f));
+            case 2 -> {
+                int label = draw(3);
+                due(call, "setLabel", x.setLabel(1, e, label), model.setLabel(1, e, label));
+            }
+            default -> due(call, "current", x.current(1), model.current(1));
         }
     }
 
