@@ -891,6 +891,19 @@ public final class PromiseTest {
         due("34: one of two labels", x.wordCount(0), 8 + 1 + 36 - 8 + 7);
     }
 
+    /** Seven events with one label, and one more behind the latest three: 15 words have it behind three or more. */
+    private static void manyWaysToOneWord() {
+        EventStructures x = withEvents(1, 0, 0, 0, 0, 0, 0, 0, 1);
+        for (int e = 4; e < 7; e++) {
+            x.addCause(1, e, 7);
+        }
+        due("34: many ways to one word", x.wordCount(1), 8 + 15);
+        x.copy(1, 0);
+        x.setLabel(0, 7, 2);
+        due("32: many ways to one word", x.wordDifferenceLength(), 4);
+        due("33: many ways to one word", x.wordDifferenceLabel(3), 1);
+    }
+
     private static void promise35Refine() {
         EventStructures x = parsed("a;c;b", "a");
         for (int s : NO_STRUCTURES) {
@@ -1356,6 +1369,7 @@ public final class PromiseTest {
         promise32WordDifferenceLength();
         promise33WordDifferenceLabel();
         promise34WordCount();
+        manyWaysToOneWord();
         promise35Refine();
         promise36ClearNet();
         promise37AddPlace();
