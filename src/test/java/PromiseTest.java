@@ -1,43 +1,10 @@
 /** At least one test for each promise of the document, and its five examples. */
-public final class PromiseTest {
-    private static final int NO_SUCH_ELEMENT = -1;
-    private static final int OUT_OF_RANGE = -2;
-    private static final int FULL = -3;
-    private static final int CYCLE = -4;
-    private static final int NOT_POSSIBLE = -5;
-    private static final int TOO_LARGE = -6;
-    private static final int NONE = -7;
-    private static final int OVERFLOW = -8;
-    private static final int LOWEST = Integer.MIN_VALUE;
-    private static final int HIGHEST = Integer.MAX_VALUE;
-    private static final int LONG = 1000000000;
+public final class PromiseTest implements Codes {
     /** Numbers that are no structure. */
     private static final int[] NO_STRUCTURES = {-1, 2, LOWEST, HIGHEST};
 
     private static void due(String call, long got, long want) {
         Checks.due(call, got, want);
-    }
-
-    private static int parse(EventStructures x, int structure, String text) {
-        for (int i = 0; i < text.length(); i++) {
-            due("append to " + text, x.append(text.charAt(i)), i + 1);
-        }
-        return x.parse(structure);
-    }
-
-    private static EventStructures parsed(String first, String second) {
-        EventStructures x = new EventStructures();
-        due("parse " + first, Math.min(0, parse(x, 0, first)), 0);
-        due("parse " + second, Math.min(0, parse(x, 1, second)), 0);
-        return x;
-    }
-
-    private static EventStructures withEvents(int structure, int... labels) {
-        EventStructures x = new EventStructures();
-        for (int i = 0; i < labels.length; i++) {
-            due("addEvent", x.addEvent(structure, labels[i], 1), i);
-        }
-        return x;
     }
 
     private static void constants() {
@@ -53,13 +20,13 @@ public final class PromiseTest {
 
     private static void examples() {
         EventStructures x = new EventStructures();
-        due("example 1: parse", parse(x, 0, "a;(b+c)"), 3);
+        due("example 1: parse", Make.parse(x, 0, "a;(b+c)"), 3);
         due("example 1: configurationCount", x.configurationCount(0), 4);
         due("example 1: maximalConfiguration", x.maximalConfiguration(0, 1), 5);
         due("example 1: areInConflict", x.areInConflict(0, 1, 2), 1);
 
         x = new EventStructures();
-        due("example 2: parse", parse(x, 0, "a|b"), 2);
+        due("example 2: parse", Make.parse(x, 0, "a|b"), 2);
         due("example 2: stepCount", x.stepCount(0, 0), 3);
         due("example 2: runCount", x.runCount(0, 3), 2);
         due("example 2: stepRunCount", x.stepRunCount(0, 3), 3);
@@ -73,7 +40,7 @@ public final class PromiseTest {
         due("example 3: wordDifferenceLength", x.wordDifferenceLength(), 2);
 
         x = new EventStructures();
-        due("example 4: parse", parse(x, 1, "a;(b"), -104);
+        due("example 4: parse", Make.parse(x, 1, "a;(b"), -104);
         due("example 4: eventCount", x.eventCount(1), 0);
         due("example 4: restore", x.restore(), NONE);
 
@@ -81,9 +48,9 @@ public final class PromiseTest {
         due("example 5: addPlace", x.addPlace(true), 0);
         due("example 5: addTransition", x.addTransition(1, 1, 0), 0);
         due("example 5: unfold", x.unfold(0), TOO_LARGE);
-        due("example 5: addEvent", x.addEvent(0, 0, LONG), 0);
-        due("example 5: addEvent", x.addEvent(0, 0, LONG), 1);
-        due("example 5: addEvent", x.addEvent(0, 0, LONG), 2);
+        due("example 5: addEvent", x.addEvent(0, 0, LONGEST), 0);
+        due("example 5: addEvent", x.addEvent(0, 0, LONGEST), 1);
+        due("example 5: addEvent", x.addEvent(0, 0, LONGEST), 2);
         due("example 5: totalTime", x.totalTime(0, 7), OVERFLOW);
         due("example 5: totalTime", x.totalTime(0, 3), 2000000000);
     }
@@ -114,11 +81,11 @@ public final class PromiseTest {
         due("2: label too low", x.addEvent(0, -1, 0), OUT_OF_RANGE);
         due("2: label too high", x.addEvent(0, 6, 0), OUT_OF_RANGE);
         due("2: duration too low", x.addEvent(0, 0, -1), OUT_OF_RANGE);
-        due("2: duration too high", x.addEvent(0, 0, LONG + 1), OUT_OF_RANGE);
+        due("2: duration too high", x.addEvent(0, 0, LONGEST + 1), OUT_OF_RANGE);
         due("2: lowest", x.addEvent(0, 0, 0), 0);
-        due("2: highest", x.addEvent(0, 5, LONG), 1);
+        due("2: highest", x.addEvent(0, 5, LONGEST), 1);
         due("2: label", x.label(0, 1), 5);
-        due("2: duration", x.totalTime(0, 2), LONG);
+        due("2: duration", x.totalTime(0, 2), LONGEST);
         due("2: no duration", x.totalTime(0, 1), 0);
         due("2: no causes, no conflicts", x.concurrentPairs(0), 1);
         for (int i = 2; i < 8; i++) {
@@ -129,7 +96,7 @@ public final class PromiseTest {
         due("2: the other one has room", x.addEvent(1, 0, 1), 0);
         due("2: eventCount", x.eventCount(0), 8);
 
-        x = withEvents(0, 0, 1);
+        x = Make.events(0, 0, 1);
         x.addCause(0, 0, 1);
         x.addConflict(0, 0, 1);
         x.clear(0);
@@ -148,7 +115,7 @@ public final class PromiseTest {
     }
 
     private static void promise3RemoveEvent() {
-        EventStructures x = withEvents(0, 0, 1, 2, 3, 4);
+        EventStructures x = Make.events(0, 0, 1, 2, 3, 4);
         for (int s : NO_STRUCTURES) {
             due("3: no structure", x.removeEvent(s, 0), NO_SUCH_ELEMENT);
         }
@@ -201,8 +168,8 @@ public final class PromiseTest {
     /** Each event is removed once, from events with all cause pairs along the numbers, or all conflict pairs. */
     private static void removeEach() {
         for (int removed = 0; removed < 5; removed++) {
-            EventStructures x = withEvents(0, 0, 1, 2, 3, 4);
-            EventStructures y = withEvents(1, 0, 1, 2, 3, 4);
+            EventStructures x = Make.events(0, 0, 1, 2, 3, 4);
+            EventStructures y = Make.events(1, 0, 1, 2, 3, 4);
             for (int e = 0; e < 5; e++) {
                 for (int f = 0; f < e; f++) {
                     x.addCause(0, f, e);
@@ -222,7 +189,7 @@ public final class PromiseTest {
     }
 
     private static void promise4AddCause() {
-        EventStructures x = withEvents(0, 0, 1, 2);
+        EventStructures x = Make.events(0, 0, 1, 2);
         for (int s : NO_STRUCTURES) {
             due("4: no structure", x.addCause(s, 0, 1), NO_SUCH_ELEMENT);
         }
@@ -248,7 +215,7 @@ public final class PromiseTest {
     }
 
     private static void promise5AddConflict() {
-        EventStructures x = withEvents(1, 0, 1, 2);
+        EventStructures x = Make.events(1, 0, 1, 2);
         for (int s : NO_STRUCTURES) {
             due("5: no structure", x.addConflict(s, 0, 0), NO_SUCH_ELEMENT);
         }
@@ -272,7 +239,7 @@ public final class PromiseTest {
     }
 
     private static void promise6SetLabel() {
-        EventStructures x = withEvents(0, 4, 1);
+        EventStructures x = Make.events(0, 4, 1);
         for (int s : NO_STRUCTURES) {
             due("6: no structure", x.setLabel(s, 0, 9), NO_SUCH_ELEMENT);
         }
@@ -294,7 +261,7 @@ public final class PromiseTest {
     }
 
     private static void promise7Clear() {
-        EventStructures x = withEvents(0, 0, 1);
+        EventStructures x = Make.events(0, 0, 1);
         x.addEvent(1, 0, 1);
         for (int s : NO_STRUCTURES) {
             due("7: no structure", x.clear(s), NO_SUCH_ELEMENT);
@@ -343,7 +310,7 @@ public final class PromiseTest {
     }
 
     private static void promise9EventCount() {
-        EventStructures x = withEvents(1, 0, 0, 0);
+        EventStructures x = Make.events(1, 0, 0, 0);
         for (int s : NO_STRUCTURES) {
             due("9: no structure", x.eventCount(s), NO_SUCH_ELEMENT);
         }
@@ -356,7 +323,7 @@ public final class PromiseTest {
     }
 
     private static void promise10Label() {
-        EventStructures x = withEvents(1, 0, 1, 2, 3, 4, 5);
+        EventStructures x = Make.events(1, 0, 1, 2, 3, 4, 5);
         for (int s : NO_STRUCTURES) {
             due("10: no structure", x.label(s, 0), NO_SUCH_ELEMENT);
         }
@@ -370,7 +337,7 @@ public final class PromiseTest {
     }
 
     private static void promise11IsBelow() {
-        EventStructures x = withEvents(0, 0, 0, 0, 0);
+        EventStructures x = Make.events(0, 0, 0, 0, 0);
         x.addCause(0, 3, 1);
         x.addCause(0, 1, 2);
         for (int s : NO_STRUCTURES) {
@@ -388,7 +355,7 @@ public final class PromiseTest {
     }
 
     private static void promise12AreInConflict() {
-        EventStructures x = withEvents(0, 0, 0, 0, 0, 0);
+        EventStructures x = Make.events(0, 0, 0, 0, 0, 0);
         x.addCause(0, 0, 2);
         x.addCause(0, 1, 3);
         x.addConflict(0, 0, 1);
@@ -409,7 +376,7 @@ public final class PromiseTest {
         x.addCause(0, 3, 4);
         due("12: impossible", x.areInConflict(0, 4, 4), 1);
         due("12: with its past", x.areInConflict(0, 4, 0), 1);
-        x = withEvents(1, 0, 0);
+        x = Make.events(1, 0, 0);
         x.addCause(1, 0, 1);
         x.addConflict(1, 0, 1);
         due("12: cause and conflict", x.areInConflict(1, 1, 1), 1);
@@ -418,7 +385,7 @@ public final class PromiseTest {
     }
 
     private static void promise13History() {
-        EventStructures x = withEvents(0, 0, 0, 0, 0);
+        EventStructures x = Make.events(0, 0, 0, 0, 0);
         x.addCause(0, 3, 1);
         x.addCause(0, 1, 0);
         for (int s : NO_STRUCTURES) {
@@ -431,7 +398,7 @@ public final class PromiseTest {
         due("13: history", x.history(0, 1), 10);
         due("13: alone", x.history(0, 2), 4);
         due("13: first of the chain", x.history(0, 3), 8);
-        x = withEvents(0, 0, 0, 0, 0, 0, 0, 0, 0);
+        x = Make.events(0, 0, 0, 0, 0, 0, 0, 0, 0);
         for (int e = 7; e > 0; e--) {
             x.addCause(0, e, e - 1);
         }
@@ -439,7 +406,7 @@ public final class PromiseTest {
     }
 
     private static void promise14ConcurrentPairs() {
-        EventStructures x = withEvents(0, 0, 0, 0, 0);
+        EventStructures x = Make.events(0, 0, 0, 0, 0);
         for (int s : NO_STRUCTURES) {
             due("14: no structure", x.concurrentPairs(s), NO_SUCH_ELEMENT);
         }
@@ -449,14 +416,14 @@ public final class PromiseTest {
         due("14: ordered", x.concurrentPairs(0), 5);
         x.addConflict(0, 1, 2);
         due("14: conflict, inherited too", x.concurrentPairs(0), 3);
-        x = withEvents(0, 0, 0, 0);
+        x = Make.events(0, 0, 0, 0);
         x.addCause(0, 0, 1);
         x.addConflict(0, 0, 1);
         due("14: impossible events can be concurrent", x.concurrentPairs(0), 2);
     }
 
     private static void promise15IsConfiguration() {
-        EventStructures x = withEvents(0, 0, 0, 0);
+        EventStructures x = Make.events(0, 0, 0, 0);
         x.addCause(0, 0, 1);
         x.addConflict(0, 1, 2);
         for (int s : NO_STRUCTURES) {
@@ -476,7 +443,7 @@ public final class PromiseTest {
     }
 
     private static void promise16ConfigurationCount() {
-        EventStructures x = withEvents(0, 0, 0, 0, 0, 0, 0, 0, 0);
+        EventStructures x = Make.events(0, 0, 0, 0, 0, 0, 0, 0, 0);
         for (int s : NO_STRUCTURES) {
             due("16: no structure", x.configurationCount(s), NO_SUCH_ELEMENT);
         }
@@ -491,7 +458,7 @@ public final class PromiseTest {
     }
 
     private static void promise17MaximalCount() {
-        EventStructures x = parsed("(a+b)|(c+d)", "a|b;c");
+        EventStructures x = Make.parsed("(a+b)|(c+d)", "a|b;c");
         for (int s : NO_STRUCTURES) {
             due("17: no structure", x.maximalCount(s), NO_SUCH_ELEMENT);
         }
@@ -507,7 +474,7 @@ public final class PromiseTest {
     }
 
     private static void promise18MaximalConfiguration() {
-        EventStructures x = parsed("(a+b)|(c+d)", "0");
+        EventStructures x = Make.parsed("(a+b)|(c+d)", "0");
         for (int s : NO_STRUCTURES) {
             due("18: no structure", x.maximalConfiguration(s, 9), NO_SUCH_ELEMENT);
         }
@@ -523,7 +490,7 @@ public final class PromiseTest {
     }
 
     private static void promise19Enabled() {
-        EventStructures x = parsed("a;(b+c)|d", "0");
+        EventStructures x = Make.parsed("a;(b+c)|d", "0");
         for (int s : NO_STRUCTURES) {
             due("19: no structure", x.enabled(s, -1), NO_SUCH_ELEMENT);
         }
@@ -544,7 +511,7 @@ public final class PromiseTest {
     }
 
     private static void promise20StepCount() {
-        EventStructures x = parsed("a|(b+c)|d;e", "a|b|c|d|e|f|a|b");
+        EventStructures x = Make.parsed("a|(b+c)|d;e", "a|b|c|d|e|f|a|b");
         for (int s : NO_STRUCTURES) {
             due("20: no structure", x.stepCount(s, -1), NO_SUCH_ELEMENT);
         }
@@ -560,7 +527,7 @@ public final class PromiseTest {
     }
 
     private static void promise21LargestStep() {
-        EventStructures x = parsed("a|(b+c)|d;e", "(a|b)+c");
+        EventStructures x = Make.parsed("a|(b+c)|d;e", "(a|b)+c");
         for (int s : NO_STRUCTURES) {
             due("21: no structure", x.largestStep(s, -1), NO_SUCH_ELEMENT);
         }
@@ -575,7 +542,7 @@ public final class PromiseTest {
     }
 
     private static void promise22RunCount() {
-        EventStructures x = parsed("a;b|c;d", "a|b|c|d|e|f|a|b");
+        EventStructures x = Make.parsed("a;b|c;d", "a|b|c|d|e|f|a|b");
         for (int s : NO_STRUCTURES) {
             due("22: no structure", x.runCount(s, -1), NO_SUCH_ELEMENT);
         }
@@ -591,7 +558,7 @@ public final class PromiseTest {
     }
 
     private static void promise23StepRunCount() {
-        EventStructures x = parsed("a;b|c;d", "a|b|c|d|e|f|a|b");
+        EventStructures x = Make.parsed("a;b|c;d", "a|b|c|d|e|f|a|b");
         for (int s : NO_STRUCTURES) {
             due("23: no structure", x.stepRunCount(s, -1), NO_SUCH_ELEMENT);
         }
@@ -626,8 +593,8 @@ public final class PromiseTest {
             due("24: not possible", x.shortestTime(0, set), NOT_POSSIBLE);
         }
         x = new EventStructures();
-        x.addEvent(1, 0, LONG);
-        x.addEvent(1, 0, LONG);
+        x.addEvent(1, 0, LONGEST);
+        x.addEvent(1, 0, LONGEST);
         x.addEvent(1, 0, 147483647);
         x.addEvent(1, 0, 1);
         x.addCause(1, 0, 1);
@@ -638,9 +605,9 @@ public final class PromiseTest {
         due("24: not possible before overflow", x.shortestTime(1, 14), NOT_POSSIBLE);
         x.clear(1);
         for (int e = 0; e < 8; e++) {
-            x.addEvent(1, 0, LONG);
+            x.addEvent(1, 0, LONGEST);
         }
-        due("24: side by side", x.shortestTime(1, 255), LONG);
+        due("24: side by side", x.shortestTime(1, 255), LONGEST);
         for (int e = 1; e < 8; e++) {
             x.addCause(1, e - 1, e);
         }
@@ -654,8 +621,8 @@ public final class PromiseTest {
 
     private static void promise25TotalTime() {
         EventStructures x = new EventStructures();
-        x.addEvent(1, 0, LONG);
-        x.addEvent(1, 0, LONG);
+        x.addEvent(1, 0, LONGEST);
+        x.addEvent(1, 0, LONGEST);
         x.addEvent(1, 0, 147483647);
         x.addEvent(1, 0, 1);
         x.addEvent(1, 0, 5);
@@ -672,14 +639,14 @@ public final class PromiseTest {
         }
         x.clear(0);
         for (int e = 0; e < 8; e++) {
-            x.addEvent(0, 0, LONG);
+            x.addEvent(0, 0, LONGEST);
         }
         due("25: all eight", x.totalTime(0, 255), OVERFLOW);
         due("25: five", x.totalTime(0, 31), OVERFLOW);
     }
 
     private static void promise26Occur() {
-        EventStructures x = parsed("a;(b+c)|d", "a");
+        EventStructures x = Make.parsed("a;(b+c)|d", "a");
         for (int s : NO_STRUCTURES) {
             due("26: no structure", x.occur(s, 0), NO_SUCH_ELEMENT);
         }
@@ -697,7 +664,7 @@ public final class PromiseTest {
     }
 
     private static void promise27Withdraw() {
-        EventStructures x = parsed("a;b;c|d", "a");
+        EventStructures x = Make.parsed("a;b;c|d", "a");
         for (int s : NO_STRUCTURES) {
             due("27: no structure", x.withdraw(s, 0), NO_SUCH_ELEMENT);
         }
@@ -719,7 +686,7 @@ public final class PromiseTest {
     }
 
     private static void promise28Current() {
-        EventStructures x = parsed("a|b", "c|d");
+        EventStructures x = Make.parsed("a|b", "c|d");
         for (int s : NO_STRUCTURES) {
             due("28: no structure", x.current(s), NO_SUCH_ELEMENT);
         }
@@ -734,19 +701,19 @@ public final class PromiseTest {
     }
 
     private static void promise29AreBisimilar() {
-        EventStructures x = parsed("a|b", "a;b+b;a");
+        EventStructures x = Make.parsed("a|b", "a;b+b;a");
         for (int kind : new int[] {-1, 2, LOWEST, HIGHEST}) {
             due("29: no kind", x.areBisimilar(kind), OUT_OF_RANGE);
         }
         due("29: interleaving", x.areBisimilar(0), 1);
         due("29: steps", x.areBisimilar(1), 0);
-        x = parsed("a;(b+c)", "a;b+a;c");
+        x = Make.parsed("a;(b+c)", "a;b+a;c");
         due("29: choice", x.areBisimilar(0), 0);
         due("29: choice", x.areBisimilar(1), 0);
-        x = parsed("a;(b+b)", "a;b+a;b");
+        x = Make.parsed("a;(b+b)", "a;b+a;b");
         due("29: same choice", x.areBisimilar(0), 1);
         due("29: same choice", x.areBisimilar(1), 1);
-        x = parsed("0", "0;0");
+        x = Make.parsed("0", "0;0");
         due("29: nothing", x.areBisimilar(0), 1);
         due("29: after a change of the second", x.areBisimilar(1), 1);
         x.addEvent(1, 0, 1);
@@ -756,111 +723,111 @@ public final class PromiseTest {
         due("29: durations do not count", x.areBisimilar(1), 1);
         x.setLabel(0, 0, 1);
         due("29: labels do", x.areBisimilar(1), 0);
-        x = parsed("a", "a;b");
+        x = Make.parsed("a", "a;b");
         due("29: the second can do more", x.areBisimilar(0), 0);
-        x = parsed("a;b", "a");
+        x = Make.parsed("a;b", "a");
         due("29: the first can do more", x.areBisimilar(0), 0);
-        x = parsed("a|a", "a;a");
+        x = Make.parsed("a|a", "a;a");
         due("29: labels alone", x.areBisimilar(0), 1);
         due("29: how many of a label", x.areBisimilar(1), 0);
     }
 
     private static void promise30SeparationRound() {
-        EventStructures x = parsed("a|b", "a;b+b;a");
+        EventStructures x = Make.parsed("a|b", "a;b+b;a");
         for (int kind : new int[] {-1, 2, LOWEST, HIGHEST}) {
             due("30: no kind", x.separationRound(kind), OUT_OF_RANGE);
         }
         due("30: bisimilar", x.separationRound(0), NONE);
         due("30: steps", x.separationRound(1), 1);
-        x = parsed("a;b;c;d;e;f;a;b", "a;b;c;d;e;f;a;c");
+        x = Make.parsed("a;b;c;d;e;f;a;b", "a;b;c;d;e;f;a;c");
         due("30: late", x.separationRound(0), 8);
         due("30: late by steps", x.separationRound(1), 8);
         x.removeEvent(1, 7);
         due("30: ends earlier", x.separationRound(0), 8);
         x.clear(0);
         due("30: at once", x.separationRound(0), 1);
-        x = parsed("a;(b+c)", "a;b+a;c");
+        x = Make.parsed("a;(b+c)", "a;b+a;c");
         due("30: choice", x.separationRound(0), 2);
-        x = parsed("a;b;c+a;b;d", "a;(b;c+b;d)");
+        x = Make.parsed("a;b;c+a;b;d", "a;(b;c+b;d)");
         due("30: the second move tells", x.separationRound(0), 3);
-        x = parsed("a;(b;c+b;d)", "a;b;(c+d)");
+        x = Make.parsed("a;(b;c+b;d)", "a;b;(c+d)");
         due("30: later choice", x.separationRound(0), 3);
-        x = parsed("0", "0");
+        x = Make.parsed("0", "0");
         due("30: nothing", x.separationRound(1), NONE);
-        x = parsed("c;(a|b)", "c;(a;b+b;a)");
+        x = Make.parsed("c;(a|b)", "c;(a;b+b;a)");
         due("30: step one later", x.separationRound(1), 2);
         due("30: no step", x.separationRound(0), NONE);
     }
 
     private static void promise31EquivalenceClasses() {
-        EventStructures x = parsed("a|b", "a;b+b;a");
+        EventStructures x = Make.parsed("a|b", "a;b+b;a");
         for (int kind : new int[] {-1, 2, LOWEST, HIGHEST}) {
             due("31: no kind", x.equivalenceClasses(kind), OUT_OF_RANGE);
         }
         due("31: single events", x.equivalenceClasses(0), 4);
         due("31: steps", x.equivalenceClasses(1), 5);
-        x = parsed("0", "0");
+        x = Make.parsed("0", "0");
         due("31: one", x.equivalenceClasses(0), 1);
         due("31: one", x.equivalenceClasses(1), 1);
-        x = parsed("a;b;c;d;e;f;a;b", "0");
+        x = Make.parsed("a;b;c;d;e;f;a;b", "0");
         due("31: chain", x.equivalenceClasses(0), 9);
-        x = parsed("a|b|c|d|e|f|a|b", "a|b|c|d|e|f|a|b");
+        x = Make.parsed("a|b|c|d|e|f|a|b", "a|b|c|d|e|f|a|b");
         due("31: all labels", x.equivalenceClasses(0), 144);
         due("31: all labels", x.equivalenceClasses(1), 144);
         x.setLabel(1, 0, 5);
         due("31: two multisets", x.equivalenceClasses(0), 192);
         due("31: two multisets", x.equivalenceClasses(1), 192);
-        x = parsed("a|a|a|a|a|a|a|a", "a;a;a;a;a;a;a;a");
+        x = Make.parsed("a|a|a|a|a|a|a|a", "a;a;a;a;a;a;a;a");
         due("31: how many are left", x.equivalenceClasses(0), 9);
         due("31: how many at once", x.equivalenceClasses(1), 16);
     }
 
     private static void promise32WordDifferenceLength() {
-        EventStructures x = parsed("a;(b+c)", "a;b+a;c");
+        EventStructures x = Make.parsed("a;(b+c)", "a;b+a;c");
         due("32: same words", x.wordDifferenceLength(), NONE);
-        x = parsed("a;b;c", "a;b");
+        x = Make.parsed("a;b;c", "a;b");
         due("32: longer on the first", x.wordDifferenceLength(), 3);
         x.copy(0, 1);
         due("32: same again", x.wordDifferenceLength(), NONE);
         x.removeEvent(0, 2);
         due("32: longer on the second", x.wordDifferenceLength(), 3);
-        x = parsed("a;b;c+d", "a;b+e");
+        x = Make.parsed("a;b;c+d", "a;b+e");
         due("32: length goes first", x.wordDifferenceLength(), 1);
-        x = parsed("a|b|c|d|e|f|a|b", "a|b|c|d|e|f|a|b");
+        x = Make.parsed("a|b|c|d|e|f|a|b", "a|b|c|d|e|f|a|b");
         due("32: all the same", x.wordDifferenceLength(), NONE);
         x.addCause(1, 0, 6);
         x.addCause(1, 1, 7);
         due("32: the order of equal labels", x.wordDifferenceLength(), NONE);
         x.setLabel(1, 7, 0);
         due("32: only the second repeats three times", x.wordDifferenceLength(), 2);
-        x = parsed("a;b;c;d;e;f;a;b", "a;b;c;d;e;f;a;c");
+        x = Make.parsed("a;b;c;d;e;f;a;b", "a;b;c;d;e;f;a;c");
         due("32: longest", x.wordDifferenceLength(), 8);
         due("32: new object", new EventStructures().wordDifferenceLength(), NONE);
     }
 
     private static void promise33WordDifferenceLabel() {
-        EventStructures x = parsed("a;b;f", "a;b;d+a;b;e");
+        EventStructures x = Make.parsed("a;b;f", "a;b;d+a;b;e");
         due("33: label", x.wordDifferenceLabel(0), 0);
         due("33: label", x.wordDifferenceLabel(1), 1);
         due("33: first by the order of labels", x.wordDifferenceLabel(2), 3);
         for (int i : new int[] {-1, 3, 8, LOWEST, HIGHEST}) {
             due("33: no position", x.wordDifferenceLabel(i), NONE);
         }
-        x = parsed("a;b;c+d", "a;b");
+        x = Make.parsed("a;b;c+d", "a;b");
         due("33: the shorter one", x.wordDifferenceLabel(0), 3);
         due("33: the shorter one", x.wordDifferenceLabel(1), NONE);
-        x = parsed("b;a+c;d", "b+c");
+        x = Make.parsed("b;a+c;d", "b+c");
         due("33: the earlier one", x.wordDifferenceLabel(0), 1);
         due("33: the earlier one", x.wordDifferenceLabel(1), 0);
-        x = parsed("a", "a");
+        x = Make.parsed("a", "a");
         due("33: no word", x.wordDifferenceLabel(0), NONE);
         due("33: no word", x.wordDifferenceLabel(-1), NONE);
-        x = parsed("a;b;c;d;e;f;a;b", "a;b;c;d;e;f;a;c");
+        x = Make.parsed("a;b;c;d;e;f;a;b", "a;b;c;d;e;f;a;c");
         due("33: last label", x.wordDifferenceLabel(7), 1);
     }
 
     private static void promise34WordCount() {
-        EventStructures x = parsed("a;b+a;c", "a|b");
+        EventStructures x = Make.parsed("a;b+a;c", "a|b");
         for (int s : NO_STRUCTURES) {
             due("34: no structure", x.wordCount(s), NO_SUCH_ELEMENT);
         }
@@ -869,7 +836,7 @@ public final class PromiseTest {
         x.clear(1);
         due("34: the empty word", x.wordCount(1), 1);
         due("34: the other one stays", x.wordCount(0), 4);
-        x = parsed("a|a|a|a|a|a|a|a", "a|b|c|d|e|f|a|b");
+        x = Make.parsed("a|a|a|a|a|a|a|a", "a|b|c|d|e|f|a|b");
         due("34: one label", x.wordCount(0), 9);
         // The sum over all kinds of words: for each choice of i times a, j times b and k other labels, their orders.
         int[] factorials = {1, 1, 2, 6, 24, 120, 720, 5040, 40320};
@@ -893,7 +860,7 @@ public final class PromiseTest {
 
     /** Seven events with one label, and one more behind the latest three: 15 words have it behind three or more. */
     private static void manyWaysToOneWord() {
-        EventStructures x = withEvents(1, 0, 0, 0, 0, 0, 0, 0, 1);
+        EventStructures x = Make.events(1, 0, 0, 0, 0, 0, 0, 0, 1);
         for (int e = 4; e < 7; e++) {
             x.addCause(1, e, 7);
         }
@@ -905,7 +872,7 @@ public final class PromiseTest {
     }
 
     private static void promise35Refine() {
-        EventStructures x = parsed("a;c;b", "a");
+        EventStructures x = Make.parsed("a;c;b", "a");
         for (int s : NO_STRUCTURES) {
             due("35: no structure", x.refine(s, 9, 0, 0, true), NO_SUCH_ELEMENT);
         }
@@ -934,7 +901,7 @@ public final class PromiseTest {
         due("35: no such event", x.refine(0, 4, 0, 0, true), 5);
         due("35: current empty", x.current(0), 0);
 
-        x = parsed("a+a", "a;a");
+        x = Make.parsed("a+a", "a;a");
         due("35: both sides of a conflict", x.refine(0, 0, 0, 1, true), 4);
         due("35: four conflict pairs", x.addConflict(0, 0, 2), 0);
         due("35: four conflict pairs", x.addConflict(0, 1, 2), 0);
@@ -1164,38 +1131,39 @@ public final class PromiseTest {
             2, 4, 4, 3, 7, 1, 3, 3, 2, 9, 17};
         x.occur(0, 0);
         for (int i = 0; i < wrong.length; i++) {
-            due("42: " + wrong[i], parse(x, 0, wrong[i]), -100 - positions[i]);
+            due("42: " + wrong[i], Make.parse(x, 0, wrong[i]), -100 - positions[i]);
         }
         due("42: current kept", x.current(0), 1);
         due("42: unchanged", x.label(0, 0), 1);
-        due("42: parse", parse(x, 0, "a"), 1);
+        due("42: parse", Make.parse(x, 0, "a"), 1);
         due("42: current empty", x.current(0), 0);
-        due("42: forty characters", parse(x, 0, "((((((((((((((((((((a))))))))))))))))))0".substring(0, 39)), -139);
-        due("42: nested", parse(x, 0, "(((((((((((((((((((ab"), -120);
-        due("42: nested", parse(x, 0, "(((((((((((((((((((a)))))))))))))))))))"), 1);
-        due("42: all open", parse(x, 0, "(".repeat(40)), -140);
-        parsedStructures(x);
-        parsedSequences(x);
-        parsedSizes(x);
+        due("42: too few closed", Make.parse(x, 0, "((((((((((((((((((((a))))))))))))))))))"), -139);
+        due("42: nested", Make.parse(x, 0, "(((((((((((((((((((ab"), -120);
+        due("42: nested", Make.parse(x, 0, "(((((((((((((((((((a)))))))))))))))))))"), 1);
+        due("42: all open", Make.parse(x, 0, "(".repeat(40)), -140);
+        parsedStructures();
+        parsedSequences();
+        parsedSizes();
     }
 
-    private static void parsedStructures(EventStructures x) {
-        due("42: labels", parse(x, 0, "a|b|c|d|e|f"), 6);
+    private static void parsedStructures() {
+        EventStructures x = new EventStructures();
+        due("42: labels", Make.parse(x, 0, "a|b|c|d|e|f"), 6);
         for (int e = 0; e < 6; e++) {
             due("42: label", x.label(0, e), e);
         }
         due("42: duration", x.totalTime(0, 63), 6);
         due("42: side by side", x.concurrentPairs(0), 15);
-        due("42: nothing", parse(x, 0, "0"), 0);
-        due("42: nothing", parse(x, 0, "0|(0+0);0"), 0);
-        due("42: binding", parse(x, 0, "a+b|c;d"), 4);
+        due("42: nothing", Make.parse(x, 0, "0"), 0);
+        due("42: nothing", Make.parse(x, 0, "0|(0+0);0"), 0);
+        due("42: binding", Make.parse(x, 0, "a+b|c;d"), 4);
         due("42: binding", x.history(0, 3), 12);
         due("42: binding", x.areInConflict(0, 0, 1), 1);
         due("42: binding", x.areInConflict(0, 0, 3), 1);
         due("42: binding", x.areInConflict(0, 1, 2), 0);
         due("42: each pair of a choice", x.addConflict(0, 3, 0), 0);
         due("42: no pair", x.addConflict(0, 1, 2), 1);
-        due("42: choice of three", parse(x, 0, "a+b+c"), 3);
+        due("42: choice of three", Make.parse(x, 0, "a+b+c"), 3);
         for (int e = 0; e < 3; e++) {
             for (int f = 0; f < 3; f++) {
                 due("42: each two are in conflict", x.areInConflict(0, e, f), e == f ? 0 : 1);
@@ -1203,12 +1171,13 @@ public final class PromiseTest {
         }
         due("42: each two are a pair", x.addConflict(0, 0, 2), 0);
         due("42: each two are a pair", x.addConflict(0, 1, 2), 0);
-        due("42: parentheses", parse(x, 0, "(a+b)|c"), 3);
+        due("42: parentheses", Make.parse(x, 0, "(a+b)|c"), 3);
         due("42: parentheses", x.concurrentPairs(0), 2);
     }
 
-    private static void parsedSequences(EventStructures x) {
-        due("42: copies", parse(x, 0, "(a+b);(c;d)"), 6);
+    private static void parsedSequences() {
+        EventStructures x = new EventStructures();
+        due("42: copies", Make.parse(x, 0, "(a+b);(c;d)"), 6);
         int[] labels = {0, 1, 2, 3, 2, 3};
         int[] histories = {1, 2, 5, 13, 18, 50};
         for (int e = 0; e < 6; e++) {
@@ -1219,52 +1188,53 @@ public final class PromiseTest {
         due("42: direct cause of all of the copy", x.addCause(0, 1, 5), 0);
         due("42: inner causes of the copy", x.addCause(0, 4, 5), 0);
         due("42: no conflict pair between copies", x.addConflict(0, 2, 4), 1);
-        due("42: inner conflicts of the copies", parse(x, 0, "(a+b);(c+d)"), 6);
+        due("42: inner conflicts of the copies", Make.parse(x, 0, "(a+b);(c+d)"), 6);
         due("42: inner conflicts of the copies", x.addConflict(0, 4, 5), 0);
         due("42: inner conflicts of the copies", x.addConflict(0, 2, 3), 0);
-        due("42: order of the copies", parse(x, 0, "(a+b);c+d"), 5);
+        due("42: order of the copies", Make.parse(x, 0, "(a+b);c+d"), 5);
         due("42: order of the copies", x.label(0, 4), 3);
         due("42: history of the copies", x.history(0, 3), 10);
-        due("42: from the left", parse(x, 0, "a;b;c"), 3);
+        due("42: from the left", Make.parse(x, 0, "a;b;c"), 3);
         due("42: all are direct causes", x.addCause(0, 0, 2), 0);
-        due("42: from the right", parse(x, 0, "a;(b;c)"), 3);
+        due("42: from the right", Make.parse(x, 0, "a;(b;c)"), 3);
         due("42: all are direct causes", x.addCause(0, 0, 2), 0);
-        due("42: nothing first", parse(x, 0, "0;a;0;b"), 2);
+        due("42: nothing first", Make.parse(x, 0, "0;a;0;b"), 2);
         due("42: nothing first", x.history(0, 1), 3);
-        due("42: sequence behind others", parse(x, 0, "a|b|(c+d);e"), 6);
+        due("42: sequence behind others", Make.parse(x, 0, "a|b|(c+d);e"), 6);
         due("42: sequence behind others", x.history(0, 4), 20);
         due("42: sequence behind others", x.history(0, 5), 40);
-        due("42: increasing order", parse(x, 0, "((a|b)+c);d"), 5);
+        due("42: increasing order", Make.parse(x, 0, "((a|b)+c);d"), 5);
         due("42: increasing order", x.history(0, 3), 11);
         due("42: increasing order", x.history(0, 4), 20);
-        due("42: copies of nothing", parse(x, 0, "(a+b);0"), 2);
-        due("42: a choice with nothing", parse(x, 0, "(a+0);b"), 2);
+        due("42: copies of nothing", Make.parse(x, 0, "(a+b);0"), 2);
+        due("42: a choice with nothing", Make.parse(x, 0, "(a+0);b"), 2);
     }
 
-    private static void parsedSizes(EventStructures x) {
-        due("42: eight", parse(x, 1, "a|b|c|d|e|f|a|b"), 8);
+    private static void parsedSizes() {
+        EventStructures x = new EventStructures();
+        due("42: eight", Make.parse(x, 1, "a|b|c|d|e|f|a|b"), 8);
         x.occur(1, 3);
-        due("42: nine", parse(x, 1, "a|b|c|d|e|f|a|b|c"), TOO_LARGE);
+        due("42: nine", Make.parse(x, 1, "a|b|c|d|e|f|a|b|c"), TOO_LARGE);
         due("42: unchanged", x.eventCount(1), 8);
         due("42: current kept", x.current(1), 8);
         due("42: the text is gone", x.append('a'), 1);
         due("42: one", x.parse(1), 1);
-        due("42: an error goes before the size", parse(x, 1, "a|b|c|d|e|f|a|b|c|"), -118);
-        due("42: eight by copies", parse(x, 1, "(a+b+c+d);e"), 8);
-        due("42: nine by copies", parse(x, 1, "(a+b+c);(d|e)"), TOO_LARGE);
-        due("42: many copies", parse(x, 1, "(a+b);(c+d);(e+f)"), TOO_LARGE);
+        due("42: an error goes before the size", Make.parse(x, 1, "a|b|c|d|e|f|a|b|c|"), -118);
+        due("42: eight by copies", Make.parse(x, 1, "(a+b+c+d);e"), 8);
+        due("42: nine by copies", Make.parse(x, 1, "(a+b+c);(d|e)"), TOO_LARGE);
+        due("42: many copies", Make.parse(x, 1, "(a+b);(c+d);(e+f)"), TOO_LARGE);
         due("42: unchanged", x.eventCount(1), 8);
-        due("42: a large part", parse(x, 1, "0;(a|b|c|d|e|f|a|b|c)"), TOO_LARGE);
-        due("42: eight in a chain", parse(x, 1, "a;b;c;d;e;f;a;b"), 8);
+        due("42: a large part", Make.parse(x, 1, "0;(a|b|c|d|e|f|a|b|c)"), TOO_LARGE);
+        due("42: eight in a chain", Make.parse(x, 1, "a;b;c;d;e;f;a;b"), 8);
         due("42: eight in a chain", x.history(1, 7), 255);
-        due("42: eight in conflict", parse(x, 1, "a+b+c+d+e+f+a+b"), 8);
+        due("42: eight in conflict", Make.parse(x, 1, "a+b+c+d+e+f+a+b"), 8);
         due("42: eight in conflict", x.configurationCount(1), 9);
-        due("42: copies of nothing", parse(x, 1, "(a+b+c+d+e+f+a+b);0"), 8);
-        due("42: nine in conflict", parse(x, 1, "a+b+c+d+e+f+a+b+c"), TOO_LARGE);
+        due("42: copies of nothing", Make.parse(x, 1, "(a+b+c+d+e+f+a+b);0"), 8);
+        due("42: nine in conflict", Make.parse(x, 1, "a+b+c+d+e+f+a+b+c"), TOO_LARGE);
     }
 
     private static void promise43Save() {
-        EventStructures x = parsed("a|b", "c");
+        EventStructures x = Make.parsed("a|b", "c");
         due("43: save", x.save(), 3);
         due("43: both stay", x.eventCount(0), 2);
         x.occur(0, 1);

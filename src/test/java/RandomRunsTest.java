@@ -1,10 +1,14 @@
 /**
- * Runs of up to 512 calls on new objects, the calls and their arguments drawn by a fixed rule, each answer compared
+ * Runs of at most 512 calls on new objects, the calls and their arguments drawn by a fixed rule, each answer compared
  * with that of the model. The rule has no outside source of chance, so all runs are always the same.
  */
 public final class RandomRunsTest {
-    private static final int RUNS = 400;
-    private static final int CALLS = 512;
+    private static final int RUNS = 800;
+    private static final int MOST_CALLS = 512;
+    /** More calls than one drawn deed makes; the longest one is a net with all questions about it. */
+    private static final int LONGEST_DEED = 64;
+    /** Texts go a little beyond what the buffer takes. */
+    private static final int LONGEST_TEXT = 44;
     private static final int METHODS = 42;
     private static final String[] TEXTS = {"a;(b+c)", "(a|b);c", "a;b+a;c", "a|b", "a;b+b;a", "(a+b);(c|d)",
         "((a;b)+c)|(d+e)", "(a+0);b|c", "a;(b|c);d", "a|(b;c+d;e)", "(a+b)|(a+b)", "0;(a|b|a)", "a|a|b", "a;a;a+b;a",
@@ -14,6 +18,7 @@ public final class RandomRunsTest {
 
     private final int run;
     private long state;
+    private int made = 0;
     private final EventStructures x = new EventStructures();
     private final Model model = new Model();
 
@@ -76,11 +81,12 @@ public final class RandomRunsTest {
     }
 
     private void due(int call, String name, int got, int want) {
+        made++;
         Checks.due("run " + run + ", call " + call + ": " + name, got, want);
     }
 
     private void calls() {
-        for (int call = 0; call < CALLS; call++) {
+        for (int call = 0; made + LONGEST_DEED <= MOST_CALLS; call++) {
             int method = draw(METHODS + 12);
             if (method < 8) {
                 change(call, method);
@@ -283,6 +289,7 @@ public final class RandomRunsTest {
         if (draw(8) == 0) {
             made.setLength(draw(made.length() + 1));
         }
+        made.setLength(Math.min(made.length(), LONGEST_TEXT));
         return made.toString();
     }
 
