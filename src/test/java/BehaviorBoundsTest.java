@@ -62,6 +62,15 @@ public final class BehaviorBoundsTest implements Codes {
         }
     }
 
+    private static void wholeHistoriesDownwards() {
+        sentence("Configurations: contains the history of each of its events, of the first one, too");
+        EventStructures x = downwards(1, 1, 1, 1, 1, 1, 1, 1);
+        for (int set = 0; set < 256; set++) {
+            boolean isComplete = (set & ~(set >> 1 | 128)) == 0;
+            due("isConfiguration(" + set + ")", x.isConfiguration(0, set), isComplete ? 1 : 0);
+        }
+    }
+
     private static void noTwoInConflict() {
         sentence("Configurations: no two events, different or not, are in conflict");
         EventStructures x = Make.many(0, 8);
@@ -205,6 +214,15 @@ public final class BehaviorBoundsTest implements Codes {
         due("an impossible event is left", x.largestStep(0, 1), 0);
     }
 
+    private static void smallestSteps() {
+        sentence("21: a step at a configuration with the most events, which may be one event");
+        EventStructures x = Make.many(0, 8);
+        for (int e = 0; e < 8; e++) {
+            due("event " + e + " is left", x.largestStep(0, 255 - (1 << e)), 1 << e);
+            due("event " + e + " is left", x.stepCount(0, 255 - (1 << e)), 1);
+        }
+    }
+
     private static void highestOfSeveralSteps() {
         sentence("21: among several the one that is highest as a number");
         due("eight in conflict", Make.parsed("a+b+c+d+e+f+a+b", "0").largestStep(0, 0), 128);
@@ -306,6 +324,14 @@ public final class BehaviorBoundsTest implements Codes {
         return x;
     }
 
+    private static EventStructures downwards(int... durations) {
+        EventStructures x = durations(durations);
+        for (int i = 1; i < durations.length; i++) {
+            due("addCause", x.addCause(0, i, i - 1), 1);
+        }
+        return x;
+    }
+
     private static void timesOfTheEmptyOne() {
         sentence("24: the maximum, 0 for the empty configuration; 25: the sum");
         due("shortestTime of no events", new EventStructures().shortestTime(0, 0), 0);
@@ -339,6 +365,32 @@ public final class BehaviorBoundsTest implements Codes {
         due("the longer time, not the longer chain", x.shortestTime(0, 15), 6);
         due("an event alone", x.shortestTime(0, 31), 9);
         due("events side by side", x.shortestTime(0, 3), 5);
+    }
+
+    private static void longestChains() {
+        sentence("24: a chain in which each event is a direct cause of the next one, of all eight events");
+        due("upwards", durationsInChain(1, 2, 4, 8, 16, 32, 64, 128).shortestTime(0, 255), 255);
+        due("downwards", downwards(1, 2, 4, 8, 16, 32, 64, 128).shortestTime(0, 255), 255);
+        due("without the last one", downwards(1, 2, 4, 8, 16, 32, 64, 128).shortestTime(0, 254), 254);
+        EventStructures x = durations(1, 2, 4, 8, 16, 32, 64, 128);
+        int[] order = {4, 0, 7, 2, 5, 1, 6, 3};
+        for (int i = 1; i < 8; i++) {
+            x.addCause(0, order[i - 1], order[i]);
+        }
+        due("to and fro", x.shortestTime(0, 255), 255);
+    }
+
+    private static void timesAfterLongerOnes() {
+        sentence("24: the maximum, over all events of a configuration, and of no other one");
+        EventStructures x = downwards(LONGEST, LONGEST, 5, 7);
+        due("of all", x.shortestTime(0, 15), 2 * LONGEST + 12);
+        due("of a part", x.shortestTime(0, 12), 12);
+        due("of a smaller part", x.shortestTime(0, 8), 7);
+        x.clear(0);
+        x.addEvent(0, 0, 3);
+        x.addEvent(0, 0, 4);
+        x.addCause(0, 1, 0);
+        due("of events with the same numbers", x.shortestTime(0, 3), 7);
     }
 
     private static void timeAtTheLimit() {
@@ -518,6 +570,7 @@ public final class BehaviorBoundsTest implements Codes {
         setsOfEventsThatExist();
         emptySet();
         wholeHistories();
+        wholeHistoriesDownwards();
         noTwoInConflict();
         leastAndMostConfigurations();
         leastAndMostMaximalOnes();
@@ -530,6 +583,7 @@ public final class BehaviorBoundsTest implements Codes {
         stepsArePairwiseConcurrent();
         stepsAtConfigurations();
         noLargestStep();
+        smallestSteps();
         highestOfSeveralSteps();
         mostEventsGoFirst();
         largestStepsAtConfigurations();
@@ -543,6 +597,8 @@ public final class BehaviorBoundsTest implements Codes {
         timesWithoutDuration();
         lastEventCounts();
         largestOfSeveralChains();
+        longestChains();
+        timesAfterLongerOnes();
         timeAtTheLimit();
         timeFarOverTheLimit();
         timeSideBySide();

@@ -106,6 +106,13 @@ public final class ComparisonBoundsTest implements Codes {
         due("by single events", x.areBisimilar(0), 1);
         x = Make.parsed("a|b", "a|a");
         due("two of one label, or one each", x.separationRound(1), 1);
+        for (int label = 0; label < 5; label++) {
+            String low = String.valueOf((char) ('a' + label));
+            String high = String.valueOf((char) ('b' + label));
+            String seven = low + ("|" + low).repeat(6);
+            x = Make.parsed(seven + "|" + low, "(" + seven + ")+" + high);
+            due("eight of " + low + ", or one of " + high, x.separationRound(1), 1);
+        }
         x = Make.parsed("f|f", "f;f");
         due("two of the last label", x.separationRound(1), 1);
         due("two of the last label, one by one", x.separationRound(0), NONE);
@@ -205,6 +212,43 @@ public final class ComparisonBoundsTest implements Codes {
         }
     }
 
+    private static void answersAfterAChange() {
+        sentence("29 to 33: what is told of both structures is told of them as they are now");
+        EventStructures x = Make.parsed("a;b", "a;b");
+        int[] changed = {0, 1, 1, 0, 0, 1, 0, 1};
+        int[] labels = {2, 2, 3, 3, 2, 2, 1, 1};
+        for (int i = 0; i < changed.length; i++) {
+            x.setLabel(changed[i], 1, labels[i]);
+            int same = i % 2;
+            int lowest = i == 0 || i == 6 ? 1 : 2;
+            due("wordDifferenceLength", x.wordDifferenceLength(), same == 1 ? NONE : 2);
+            due("wordDifferenceLabel", x.wordDifferenceLabel(1), same == 1 ? NONE : lowest);
+            for (int kind = 0; kind < 2; kind++) {
+                due("areBisimilar", x.areBisimilar(kind), same);
+                due("separationRound", x.separationRound(kind), same == 1 ? NONE : 2);
+                due("equivalenceClasses", x.equivalenceClasses(kind), same == 1 ? 3 : 5);
+            }
+            due("wordCount", x.wordCount(0) + x.wordCount(1), 6);
+        }
+        x.removeEvent(1, 1);
+        due("wordDifferenceLabel", x.wordDifferenceLabel(1), 1);
+        due("wordCount", x.wordCount(1), 2);
+        due("separationRound", x.separationRound(1), 2);
+    }
+
+    private static void wordsThatLeadToTheSame() {
+        sentence("32: the first word, though another word leads to the same configuration of one structure");
+        int[] word = {1, 0, 2};
+        EventStructures x = Make.parsed("(a|b);c", "a;b;c+b;a;d");
+        EventStructures y = Make.parsed("a;b;c+b;a;d", "(a|b);c");
+        due("length", x.wordDifferenceLength(), 3);
+        due("length", y.wordDifferenceLength(), 3);
+        for (int i = 0; i < 3; i++) {
+            due("label " + i, x.wordDifferenceLabel(i), word[i]);
+            due("label " + i, y.wordDifferenceLabel(i), word[i]);
+        }
+    }
+
     private static void labelsAfterAChange() {
         sentence("33: Returns a label of the word that wordDifferenceLength finds, without asking for its length");
         EventStructures x = Make.parsed("a;b", "a;c");
@@ -280,6 +324,8 @@ public final class ComparisonBoundsTest implements Codes {
         lowWordsGoFirst();
         positionsOfTheWord();
         noWordNoPosition();
+        answersAfterAChange();
+        wordsThatLeadToTheSame();
         labelsAfterAChange();
         emptyWord();
         mostWords();

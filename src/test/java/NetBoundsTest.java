@@ -131,6 +131,21 @@ public final class NetBoundsTest implements Codes {
         }
     }
 
+    private static void pairsOfTheFirstEvent() {
+        sentence("35: Each cause pair becomes one pair for each of the new events, along falling numbers, too");
+        EventStructures x = Make.events(0, 0, 5, 0);
+        x.addCause(0, 2, 1);
+        x.addCause(0, 1, 0);
+        due("refine", x.refine(0, 5, 1, 2, true), 4);
+        int[] histories = {15, 8 + 2, 8 + 4 + 2, 8};
+        for (int e = 0; e < 4; e++) {
+            due("history", x.history(0, e), histories[e]);
+        }
+        due("refine the first", x.refine(0, 0, 0, 0, false), 6);
+        due("history", x.history(0, 0), 1 + 4 + 8 + 16 + 32);
+        due("history", x.history(0, 1), 2 + 4 + 8 + 16 + 32);
+    }
+
     private static void inSequenceOrNot() {
         sentence("35: If inSequence is true, the first new event is a direct cause of the second one; "
                 + "otherwise the two new events are in no pair with each other");
@@ -416,6 +431,8 @@ public final class NetBoundsTest implements Codes {
         }
         due("0 and 1", x.addConflict(0, 0, 1), 0);
         due("1 and 2", x.addConflict(0, 1, 2), 0);
+        due("1 and 0", x.addConflict(0, 1, 0), 0);
+        due("2 and 1", x.addConflict(0, 2, 1), 0);
         due("0 and 2 are no pair", x.addConflict(0, 0, 2), 1);
         due("1 and 3 are no pair", x.addConflict(0, 1, 3), 1);
         due("2 and 3 are no pair", x.addConflict(0, 2, 3), 1);
@@ -630,6 +647,7 @@ public final class NetBoundsTest implements Codes {
         bothHaveTheDuration();
         pairsOfOneOldEvent();
         fourPairs();
+        pairsOfTheFirstEvent();
         inSequenceOrNot();
         clearedPlaces();
         clearedTransitions();

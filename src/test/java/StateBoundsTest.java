@@ -479,6 +479,50 @@ public final class StateBoundsTest implements Codes {
         }
     }
 
+    /** Six transitions, each of which leads on, so that the unfolding shows their inputs, outputs and labels. */
+    private static final String NET = """
+            addPlace true
+            addPlace false
+            addPlace false
+            addPlace true
+            addPlace false
+            addPlace true
+            addTransition 1 6 5
+            addTransition 2 16 4
+            addTransition 8 0 3
+            addTransition 4 0 2
+            addTransition 16 0 1
+            addTransition 32 0 0
+            """;
+
+    private static void netIsSaved() {
+        sentence("44: Restores the net, all of its places and transitions");
+        String other = """
+                clearNet
+                addPlace false
+                addPlace true
+                addPlace true
+                addTransition 2 1 0
+                addTransition 4 1 1
+                addTransition 1 0 2
+                addTransition 2 0 3
+                addTransition 1 6 4
+                addTransition 6 0 5
+                """;
+        EventStructures x = Bases.make(NET, "save\n", other, "restore\n");
+        due("unfold", x.unfold(0), 6);
+        due("conditionCount", x.conditionCount(), 6);
+        int[] labels = {5, 4, 3, 2, 1, 0};
+        int[] histories = {1, 3, 4, 9, 19, 32};
+        for (int e = 0; e < 6; e++) {
+            due("label", x.label(0, e), labels[e]);
+            due("history", x.history(0, e), histories[e]);
+        }
+        dueAlike("restore of the net", Bases.make(NET, "save\n", other, "restore\n"), Bases.make(NET, "save\n"));
+        dueAlike("restore of the other one", Bases.make(other, "save\nclearNet\n", NET, "clearNet\nrestore\n"),
+                Bases.make(other, "save\n"));
+    }
+
     private static void savedStateIsKept() {
         sentence("44: The saved state is kept");
         EventStructures x = Bases.make(Bases.RICH, "save\n");
@@ -583,6 +627,7 @@ public final class StateBoundsTest implements Codes {
         nothingSaved();
         emptyStateIsSaved();
         fullStateIsSaved();
+        netIsSaved();
         savedStateIsKept();
         earlierStateIsReplaced();
         currentIsRestored();

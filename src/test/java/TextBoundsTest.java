@@ -276,6 +276,10 @@ public final class TextBoundsTest implements Codes {
         due("the first part", parse("(a|a|a|a|a|a|a|a|a);0"), TOO_LARGE);
         due("the last part", parse("0;(a|a|a|a|a|a|a|a|a)"), TOO_LARGE);
         due("an inner part", parse("(0+(0;(a|(b;c;d;e;f;a;b;c))));0"), TOO_LARGE);
+        due("a part in parentheses", parse("((a+b);(c|d|e|f))"), TOO_LARGE);
+        due("a part in parentheses, and nothing", parse("((a+b);(c|d|e|f));0"), TOO_LARGE);
+        due("a part before another operator", parse("(a+b);(c|d|e|f)|0"), TOO_LARGE);
+        due("a part before the same operator", parse("(a+b);(c|d|e|f);0"), TOO_LARGE);
         due("two parts of eight", parse("(a|a|a|a|a|a|a|a)+(a|a|a|a|a|a|a|a)"), TOO_LARGE);
         due("parts of four", parse("(a|a|a|a)+(a|a|a|a)"), 8);
         due("parts of five and four", parse("(a|a|a|a|a)+(a|a|a|a)"), TOO_LARGE);
@@ -332,6 +336,8 @@ public final class TextBoundsTest implements Codes {
     private static void oneCopyForEachMaximalOne() {
         sentence("Process language: there is one copy of Q for each maximal configuration of P");
         dueEvents("0;a", "a", 1);
+        dueEvents("a|0;b", "ab", 1, 2);
+        dueEvents("a|b|0;(c;d)", "abcd", 1, 2, 4, 12);
         dueEvents("(a|b);c", "abc", 1, 2, 7);
         dueEvents("(a+b);c", "abcc", 1, 2, 5, 10);
         dueEvents("(a+0);c", "ac", 1, 3);
@@ -411,6 +417,27 @@ public final class TextBoundsTest implements Codes {
         due("of the copy", x.totalTime(0, 2 + 32 + 64 + 128), 4);
     }
 
+    private static void manyTexts() {
+        sentence("42: Parses the text, as often as it is called");
+        EventStructures x = new EventStructures();
+        for (int i = 0; i < 200; i++) {
+            due("a short text", Make.parse(x, 0, i % 2 == 0 ? "a" : "0"), 1 - i % 2);
+        }
+        due("a longer text", Make.parse(x, 1, "a;(b+c)|d"), 4);
+        due("maximalCount", x.maximalCount(1), 2);
+        x = new EventStructures();
+        for (int i = 0; i < 20; i++) {
+            due("a text that ends too early", Make.parse(x, 0, "0|(0+((a|b|c);(d|(e;f;"), -122);
+            due("nothing is left of it", x.eventCount(0), 0);
+        }
+        x = new EventStructures();
+        for (int i = 0; i < 16; i++) {
+            due("a text that is too large", Make.parse(x, 0, "0+(0|((a+b);(c;(d;(e;f)))))"), TOO_LARGE);
+        }
+        due("a text that is not", Make.parse(x, 0, "(a+b);c"), 4);
+        due("history", x.history(0, 3), 10);
+    }
+
     private static void structuresThatAreReplaced() {
         sentence("42: replaces a structure by the one that it describes");
         EventStructures x = Make.chain(0, 8);
@@ -456,6 +483,7 @@ public final class TextBoundsTest implements Codes {
         whatBindsTighter();
         numbersOfOperands();
         durationsOfTexts();
+        manyTexts();
         structuresThatAreReplaced();
         Checks.finish();
     }
