@@ -306,6 +306,25 @@ public final class BehaviorBoundsTest implements Codes {
         due("stepRunCount(5)", x.stepRunCount(0, 5), 3);
     }
 
+    private static void runsAfterAChange() {
+        sentence("22 and 23: the runs of a configuration of the structure as it is now");
+        EventStructures x = Make.many(0, 3);
+        due("three side by side", x.runCount(0, 7), 6);
+        due("three side by side, by steps", x.stepRunCount(0, 7), 13);
+        x.addCause(0, 2, 0);
+        due("with a cause pair", x.runCount(0, 7), 3);
+        due("with a cause pair, by steps", x.stepRunCount(0, 7), 5);
+        x.addCause(0, 2, 1);
+        due("with two cause pairs", x.runCount(0, 7), 2);
+        due("with two cause pairs, by steps", x.stepRunCount(0, 7), 3);
+        x.addCause(0, 1, 0);
+        due("in a chain", x.runCount(0, 7), 1);
+        due("in a chain, by steps", x.stepRunCount(0, 7), 1);
+        x.clear(0);
+        due("of no events", x.runCount(0, 0) + x.stepRunCount(0, 0), 2);
+        due("of events that went", x.runCount(0, 7), NOT_POSSIBLE);
+    }
+
     // Promises 24 and 25
 
     private static EventStructures durations(int... durations) {
@@ -593,6 +612,7 @@ public final class BehaviorBoundsTest implements Codes {
         stepRunsOfTheEmptyOne();
         fewestAndMostStepRuns();
         stepRunsOfConfigurations();
+        runsAfterAChange();
         timesOfTheEmptyOne();
         timesWithoutDuration();
         lastEventCounts();

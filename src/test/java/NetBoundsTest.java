@@ -429,13 +429,28 @@ public final class NetBoundsTest implements Codes {
         for (int e = 0; e < 4; e++) {
             due("with itself", x.areInConflict(0, e, e), 0);
         }
+        // Adding a pair that is there would mend half of one, so each is asked for in one order only.
         due("0 and 1", x.addConflict(0, 0, 1), 0);
-        due("1 and 2", x.addConflict(0, 1, 2), 0);
-        due("1 and 0", x.addConflict(0, 1, 0), 0);
         due("2 and 1", x.addConflict(0, 2, 1), 0);
         due("0 and 2 are no pair", x.addConflict(0, 0, 2), 1);
         due("1 and 3 are no pair", x.addConflict(0, 1, 3), 1);
         due("2 and 3 are no pair", x.addConflict(0, 2, 3), 1);
+    }
+
+    private static void conflictsBetweenAll() {
+        sentence("Unfolding: Two different events that take a common condition are in direct conflict, each with each");
+        EventStructures x = new EventStructures();
+        x.addPlace(true);
+        for (int t = 0; t < 6; t++) {
+            x.addTransition(1, 0, t);
+        }
+        due("unfold", x.unfold(0), 6);
+        for (int e = 0; e < 6; e++) {
+            for (int f = 0; f < 6; f++) {
+                due(e + " and " + f, x.areInConflict(0, e, f), e == f ? 0 : 1);
+            }
+        }
+        due("configurationCount", x.configurationCount(0), 7);
     }
 
     private static void producersInConflict() {
@@ -666,6 +681,7 @@ public final class NetBoundsTest implements Codes {
         oneConditionForEachInput();
         directCauses();
         directConflicts();
+        conflictsBetweenAll();
         producersInConflict();
         conditionsThatAreTaken();
         lowestTransitionFirst();

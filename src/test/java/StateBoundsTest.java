@@ -306,6 +306,30 @@ public final class StateBoundsTest implements Codes {
                 """);
     }
 
+    private static void noSuchStructure() {
+        sentence("2 to 28, 34, 35, 39 and 42: structure: the structure, 0 or 1; NO_SUCH_ELEMENT if there is none");
+        String[] calls = {"addEvent s 0 0", "removeEvent s 0", "addCause s 0 1", "addConflict s 0 1", "setLabel s 0 1",
+            "clear s", "copy s 0", "copy 1 s", "eventCount s", "label s 0", "isBelow s 0 1", "areInConflict s 0 1",
+            "history s 0", "concurrentPairs s", "isConfiguration s 0", "configurationCount s", "maximalCount s",
+            "maximalConfiguration s 0", "enabled s 0", "stepCount s 0", "largestStep s 0", "runCount s 0",
+            "stepRunCount s 0", "shortestTime s 0", "totalTime s 0", "occur s 2", "withdraw s 0", "current s",
+            "wordCount s", "refine s 5 0 0 true", "unfold s", "parse s"};
+        String base = "addEvent 0 0 1\naddEvent 0 1 1\naddEvent 0 2 1\noccur 0 0\n"
+                + "addEvent 1 0 1\naddEvent 1 1 1\naddEvent 1 2 1\noccur 1 0\n";
+        for (String call : calls) {
+            EventStructures x = Bases.make(base);
+            for (int s : new int[] {LOWEST, LOWEST + 1, -256, -2, -1, 2, 3, 8, 256, 257, 65536, HIGHEST}) {
+                String line = call.replace(" s", " " + s);
+                due(line, Script.call(x, line), NO_SUCH_ELEMENT);
+            }
+            for (int s = 0; s < 2; s++) {
+                String line = call.replace(" s", " " + s);
+                EventStructures y = Bases.make(base, "write a\n");
+                due(line + " is taken", Script.call(y, line) < 0 ? 0 : 1, 1);
+            }
+        }
+    }
+
     private static void refusedTexts() {
         sentence("Errors: A method that returns an error code leaves the state unchanged, except that parse empties "
                 + "the text buffer");
@@ -617,6 +641,7 @@ public final class StateBoundsTest implements Codes {
         refusedChangesOfTheNet();
         refusedWhenFull();
         refusedQuestions();
+        noSuchStructure();
         refusedTexts();
         answeredQuestions();
         currentBecomesEmpty();
