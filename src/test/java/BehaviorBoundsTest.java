@@ -311,13 +311,13 @@ public final class BehaviorBoundsTest implements Codes {
         EventStructures x = Make.many(0, 3);
         due("three side by side", x.runCount(0, 7), 6);
         due("three side by side, by steps", x.stepRunCount(0, 7), 13);
-        x.addCause(0, 2, 0);
+        x.addCause(0, 0, 2);
         due("with a cause pair", x.runCount(0, 7), 3);
         due("with a cause pair, by steps", x.stepRunCount(0, 7), 5);
-        x.addCause(0, 2, 1);
+        x.addCause(0, 0, 1);
         due("with two cause pairs", x.runCount(0, 7), 2);
         due("with two cause pairs, by steps", x.stepRunCount(0, 7), 3);
-        x.addCause(0, 1, 0);
+        x.addCause(0, 1, 2);
         due("in a chain", x.runCount(0, 7), 1);
         due("in a chain, by steps", x.stepRunCount(0, 7), 1);
         x.clear(0);
